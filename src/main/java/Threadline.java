@@ -230,7 +230,7 @@ public final class Threadline {
         }
     }
 
-    /** The letters that are there, and what was done with them: rows by ids, each told once for all calls. */
+    /** The letters that are there, and what was done with them. The rows of an id without a letter mean nothing. */
     private static final class Mail {
         private final boolean[] there = new boolean[IDS];
         private final int[] toldGrandparent = new int[IDS];
@@ -340,7 +340,7 @@ public final class Threadline {
         }
     }
 
-    /** What follows from the mail: made anew by each change, so that it depends on nothing but the mail. */
+    /** What follows from the mail: found anew after each change, so that it depends on nothing but the mail. */
     private static final class Forest {
         private final Mail mail;
         private final boolean[] known = new boolean[IDS];
@@ -353,7 +353,7 @@ public final class Threadline {
         private final int[] size = new int[IDS];
         private final int[] offset = new int[IDS];
         private final int[] start = new int[IDS];
-        /** All ids of the forest, tree after tree: the tree of an id is size ids from its start on. */
+        /** The whole forest, tree after tree, so that each tree is one run in it: size ids from its start. */
         private final int[] order = new int[IDS];
         private final int[] rootRow = new int[IDS];
         private int rootCount;
@@ -402,8 +402,10 @@ public final class Threadline {
 
         private int stepsToRoot(int id) {
             int steps = 0;
-            for (int at = parentIn(id); isId(at) && steps < IDS; at = parentIn(at)) {
+            int at = parentIn(id);
+            while (isId(at) && steps < IDS) {
                 steps++;
+                at = parentIn(at);
             }
             return steps;
         }
@@ -459,7 +461,7 @@ public final class Threadline {
             }
         }
 
-        /** Whether links lead from one id to another, or both are the same. */
+        /** True for one and the same id too: neither may be linked. */
         private boolean linksLead(int from, int to) {
             int at = from;
             for (int steps = 0; isId(at) && steps < IDS; steps++) {
@@ -551,7 +553,7 @@ public final class Threadline {
             }
         }
 
-        /** Siblings, or two roots, by their days, then by their ids. */
+        /** Siblings, or two roots: no others are in one row. */
         private boolean comesBefore(int first, int second) {
             if (!contains(first) || !contains(second) || parentOf[first] != parentOf[second]) {
                 return false;

@@ -4,6 +4,8 @@ final class Checks {
         void run();
     }
 
+    static final int[] NO_IDS = {-1, -2, 30, 31, 1000, Integer.MIN_VALUE, Integer.MAX_VALUE};
+
     private final String test;
     private int held;
     private int broken;

@@ -32,7 +32,8 @@ final class FaceTest {
 
     public static void main(String[] args) {
         Class<?> type = Threadline.class;
-        CHECKS.equal("public and final", Modifier.isPublic(type.getModifiers()) && Modifier.isFinal(type.getModifiers()), true);
+        CHECKS.equal("public", Modifier.isPublic(type.getModifiers()), true);
+        CHECKS.equal("final", Modifier.isFinal(type.getModifiers()), true);
         constructors(type);
         methods(type);
         fields(type);

@@ -2,7 +2,6 @@
 final class ForestTest {
     private static final Checks CHECKS = new Checks("ForestTest");
 
-    private static final int[] NO_IDS = {-1, -2, 30, 31, 1000, Integer.MIN_VALUE, Integer.MAX_VALUE};
     private static final int[] NO_PLACES = {-1, -2, 30, 1000, Integer.MIN_VALUE, Integer.MAX_VALUE};
 
     public static void main(String[] args) {
@@ -48,7 +47,7 @@ final class ForestTest {
         line.letter(0, -1, 29, 0, 0, 0);
         CHECKS.equal("lowest id", line.state(0), 3);
         CHECKS.equal("highest id", line.state(29), 1);
-        for (int bad : NO_IDS) {
+        for (int bad : Checks.NO_IDS) {
             CHECKS.illegalArgument("state " + bad, () -> line.state(bad));
         }
     }
@@ -172,7 +171,7 @@ final class ForestTest {
 
     private static void refusals() {
         Threadline line = someForest();
-        for (int bad : NO_IDS) {
+        for (int bad : Checks.NO_IDS) {
             CHECKS.illegalArgument("parent " + bad, () -> line.parent(bad));
             CHECKS.illegalArgument("children " + bad, () -> line.children(bad));
             CHECKS.illegalArgument("inTree " + bad, () -> line.inTree(bad, 0));

@@ -2,8 +2,6 @@
 final class LettersTest {
     private static final Checks CHECKS = new Checks("LettersTest");
 
-    private static final int[] NO_IDS = {-1, -2, 30, 31, 1000, Integer.MIN_VALUE, Integer.MAX_VALUE};
-
     public static void main(String[] args) {
         promise1NewObject();
         promise2Letter();
@@ -64,7 +62,7 @@ final class LettersTest {
     private static void promise2Refusals() {
         Threadline line = new Threadline();
         line.letter(1, -1, -1, 0, 0, 0);
-        for (int bad : NO_IDS) {
+        for (int bad : Checks.NO_IDS) {
             CHECKS.illegalArgument("id " + bad, () -> line.letter(bad, -1, -1, 0, 0, 0));
             if (bad != -1) {
                 CHECKS.illegalArgument("grandparent " + bad, () -> line.letter(2, bad, 3, 0, 0, 0));
@@ -98,7 +96,7 @@ final class LettersTest {
         CHECKS.equal("the deleted leaf is not known", line.state(3), 0);
         CHECKS.equal("the last one", line.delete(2), 0);
         CHECKS.equal("nothing is known then", line.state(1), 0);
-        for (int bad : NO_IDS) {
+        for (int bad : Checks.NO_IDS) {
             CHECKS.illegalArgument("delete " + bad, () -> line.delete(bad));
         }
         CHECKS.illegalState("deleted already", () -> line.delete(2));
@@ -142,7 +140,7 @@ final class LettersTest {
         CHECKS.equal("the join is forgotten", line.parent(2), -1);
         CHECKS.equal("release after join and split", line.release(2), true);
         CHECKS.equal("then as told", line.parent(2), 1);
-        for (int bad : NO_IDS) {
+        for (int bad : Checks.NO_IDS) {
             CHECKS.illegalArgument("split " + bad, () -> line.split(bad));
         }
         CHECKS.illegalState("not known", () -> line.split(9));
@@ -183,7 +181,7 @@ final class LettersTest {
         line.letter(4, -1, -1, 10, 10, 1);
         line.letter(5, -1, 9, 5, 10, 1);
         line.letter(6, -1, 9, 5, 10, 1);
-        for (int bad : NO_IDS) {
+        for (int bad : Checks.NO_IDS) {
             CHECKS.illegalArgument("join " + bad, () -> line.join(bad, 1));
             CHECKS.illegalArgument("join to " + bad, () -> line.join(1, bad));
             CHECKS.illegalArgument("join of none to " + bad, () -> line.join(20, bad));
@@ -240,7 +238,7 @@ final class LettersTest {
         line.letter(0, -1, -1, 3, 11, 1);
         line.join(2, 0);
         CHECKS.equal("join to id 0", line.release(2), true);
-        for (int bad : NO_IDS) {
+        for (int bad : Checks.NO_IDS) {
             CHECKS.illegalArgument("release " + bad, () -> line.release(bad));
         }
         CHECKS.illegalState("no letter", () -> line.release(20));
@@ -264,7 +262,7 @@ final class LettersTest {
         line.split(2);
         line.release(2);
         CHECKS.equal("hands do not make unread", line.unread(1), 0);
-        for (int bad : NO_IDS) {
+        for (int bad : Checks.NO_IDS) {
             CHECKS.illegalArgument("read " + bad, () -> line.read(bad));
         }
         CHECKS.outOfBounds("not known", () -> line.read(20));

@@ -81,7 +81,8 @@ final class ModelTest {
         int subject = below(60) == 0 ? below(50) - 15 : below(subjects) + 10 * below(2);
         int day = below(60) == 0 ? below(3000) - 1000 : below(days);
         int person = below(60) == 0 ? below(30) - 10 : below(10);
-        String call = "letter(" + id + ", " + grandparent + ", " + parent + ", " + subject + ", " + day + ", " + person + ")";
+        String told = id + ", " + grandparent + ", " + parent;
+        String call = "letter(" + told + ", " + subject + ", " + day + ", " + person + ")";
         return same(call, () -> line.letter(id, grandparent, parent, subject, day, person),
             () -> model.letter(id, grandparent, parent, subject, day, person));
     }
@@ -123,7 +124,8 @@ final class ModelTest {
         Object due = answer(want);
         Object given = answer(got);
         boolean holds = given.equals(due);
-        CHECKS.note(holds, holds || CHECKS.anyBroken() ? "" : call + " answered " + given + ", due is " + due + ", after " + calls);
+        // The text of a fault tells all calls: made for each check, it would take most of the time.
+        CHECKS.note(holds, holds ? "" : call + " answered " + given + ", due is " + due + ", after " + calls);
         return !(due instanceof Class);
     }
 

@@ -2,8 +2,6 @@
 final class SummariesTest {
     private static final Checks CHECKS = new Checks("SummariesTest");
 
-    private static final int[] NO_IDS = {-1, -2, 30, 31, 1000, Integer.MIN_VALUE, Integer.MAX_VALUE};
-
     public static void main(String[] args) {
         promise15Letters();
         promise16Unread();
@@ -72,7 +70,7 @@ final class SummariesTest {
 
     private static void refusals() {
         Threadline line = someForest();
-        for (int bad : NO_IDS) {
+        for (int bad : Checks.NO_IDS) {
             CHECKS.illegalArgument("letters " + bad, () -> line.letters(bad));
             CHECKS.illegalArgument("unread " + bad, () -> line.unread(bad));
             CHECKS.illegalArgument("people " + bad, () -> line.people(bad));

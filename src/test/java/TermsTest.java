@@ -1,3 +1,6 @@
+import java.util.ArrayList;
+import java.util.List;
+
 /** The rules under 'Terms': told parents, links, missing ids, subjects, and that the order of coming is free. */
 final class TermsTest {
     private static final Checks CHECKS = new Checks("TermsTest");
@@ -233,7 +236,8 @@ final class TermsTest {
 
     private static void orderOfComingIsFree() {
         int[][] mails = {
-            {3, 1, 2, 10, 30, 0}, {2, 5, 1, 0, 20, 1}, {7, -1, -1, 10, 33, 2}, {5, 3, 7, 1, 12, 3}, {6, -1, 5, 11, 14, 4}
+            {3, 1, 2, 10, 30, 0}, {2, 5, 1, 0, 20, 1}, {7, -1, -1, 10, 33, 2},
+            {5, 3, 7, 1, 12, 3}, {6, -1, 5, 11, 14, 4},
         };
         String want = null;
         for (int turn = 0; turn < 120; turn++) {
@@ -250,7 +254,7 @@ final class TermsTest {
     }
 
     private static int[] permutation(int number) {
-        java.util.List<Integer> rest = new java.util.ArrayList<>(java.util.List.of(0, 1, 2, 3, 4));
+        List<Integer> rest = new ArrayList<>(List.of(0, 1, 2, 3, 4));
         int[] all = new int[5];
         int left = number;
         for (int at = 0; at < 5; at++) {
