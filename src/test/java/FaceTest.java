@@ -1,10 +1,15 @@
+import java.io.IOException;
 import java.lang.reflect.Constructor;
 import java.lang.reflect.Field;
 import java.lang.reflect.Method;
 import java.lang.reflect.Modifier;
+import java.nio.file.Files;
+import java.nio.file.Path;
 import java.util.Arrays;
 import java.util.Set;
 import java.util.TreeSet;
+import java.util.regex.Matcher;
+import java.util.regex.Pattern;
 
 /** The public face is the document's, and nothing else of the class can be seen or kept from run to run. */
 final class FaceTest {
@@ -30,13 +35,22 @@ final class FaceTest {
         "int latest(int) IllegalArgumentException IndexOutOfBoundsException",
     };
 
-    public static void main(String[] args) {
+    /** "Ahead of the calls .. the interface says", in the order of the document's face. */
+    private static final String HEADINGS =
+        " [---- letters] letter delete split join release read"
+        + " [---- the forest] state parent children roots root inTree depth"
+        + " [---- summaries of the tree of an id] letters unread people latest";
+    private static final Pattern HEADING = Pattern.compile(" *// (---- .*)");
+    private static final Pattern CALL = Pattern.compile(" {4}public (?:int|boolean) (\\w+)\\(.*");
+
+    public static void main(String[] args) throws IOException {
         Class<?> type = Threadline.class;
         CHECKS.equal("public", Modifier.isPublic(type.getModifiers()), true);
         CHECKS.equal("final", Modifier.isFinal(type.getModifiers()), true);
         constructors(type);
         methods(type);
         fields(type);
+        headings();
         for (Class<?> inner : type.getDeclaredClasses()) {
             CHECKS.note(Modifier.isStatic(inner.getModifiers()), inner + " is not static");
             CHECKS.note(!Modifier.isPublic(inner.getModifiers()), inner + " is public");
@@ -63,6 +77,22 @@ final class FaceTest {
         }
         CHECKS.equal("the face", seen.toString(), new TreeSet<>(Arrays.asList(FACE)).toString());
         noNamesOfTheFace(type);
+    }
+
+    private static void headings() throws IOException {
+        StringBuilder seen = new StringBuilder();
+        String ahead = "";
+        for (String row : Files.readAllLines(Path.of("src/main/java/Threadline.java"))) {
+            Matcher heading = HEADING.matcher(row);
+            Matcher call = CALL.matcher(row);
+            if (heading.matches()) {
+                ahead = " [" + heading.group(1) + "]";
+            } else if (call.matches()) {
+                seen.append(ahead).append(' ').append(call.group(1));
+                ahead = "";
+            }
+        }
+        CHECKS.equal("headings ahead of the calls", seen.toString(), HEADINGS);
     }
 
     private static void noNamesOfTheFace(Class<?> type) {

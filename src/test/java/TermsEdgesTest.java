@@ -15,6 +15,8 @@ final class TermsEdgesTest {
         missingHasNoneWithoutATeller();
         missingHasTheGrandparentOfTheLowestTeller();
         tellersTouchedByHandTell();
+        joinedOnesTellNothingOfIt();
+        joinedToAMissingIdWithALink();
         notLinkedToItself();
         notLinkedToOneBelow();
         linkedToOneThatIsBelowNoMore();
@@ -219,6 +221,30 @@ final class TermsEdgesTest {
         CHECKS.equal("joined elsewhere", line.parent(6), 1);
         line.release(5);
         CHECKS.equal("released", line.parent(6), 1);
+    }
+
+    /** "that tells this id as its parent": one that was joined to it by hand does not, whatever grandparent it tells. */
+    private static void joinedOnesTellNothingOfIt() {
+        Threadline line = plain(1, 3, 6);
+        line.letter(5, 1, 20, 5, 0, 0);
+        line.join(5, 3);
+        line.join(6, 3);
+        line.delete(3);
+        CHECKS.equal("3 is missing and has no link", line.state(3), 2);
+        CHECKS.equal("both stay joined to it", Snapshot.tree(line, 3), " 3 5 6");
+        CHECKS.equal("20 is told by 5 still", line.state(20), 1);
+    }
+
+    /** A letter joined by hand to an id that goes hangs over it, as one that tells it does. */
+    private static void joinedToAMissingIdWithALink() {
+        Threadline line = plain(1, 2, 3);
+        line.letter(9, 3, 1, 4, 0, 0);
+        CHECKS.equal("joined", line.join(2, 1), 1);
+        line.delete(1);
+        CHECKS.equal("1 is linked to 3 by what 9 tells", line.parent(2), 3);
+        CHECKS.equal("and is not in the forest", line.state(1), 1);
+        line.delete(9);
+        CHECKS.equal("nobody tells of 1: it has one alone", line.parent(2), -1);
     }
 
     /** "unless that is the id itself" */
